@@ -43,8 +43,19 @@ public final class AgainstModelTest {
         }
 
         void go(int calls) {
+            if (seed % 3 == 1) {
+                longDesk();
+            }
             for (int i = 0; i < calls && !broken; i++) {
-                step();
+                if (seed % 4 == 2 && random.nextInt(3) == 0) {
+                    nearVersion();
+                } else if (seed % 4 == 3 && random.nextInt(6) == 0) {
+                    hunk();
+                } else if (seed % 7 == 5 && i > 80 && random.nextInt(4) == 0) {
+                    stores();
+                } else {
+                    step();
+                }
                 if (i % 10 == 9) {
                     same("digest()", x.digest(), m.digest());
                 }
@@ -114,7 +125,7 @@ public final class AgainstModelTest {
                 case 40: { int v = version(), w = version(); same("share(" + v + "," + w + ")", x.share(v, w), m.share(v, w)); break; }
                 case 41: case 42: case 43: stores(); break;
                 case 44: { int w = below(5); same("count(" + w + ")", x.count(w), m.count(w)); break; }
-                default: nearPatch(); break;
+                default: nearVersion(); break;
             }
         }
 
@@ -130,8 +141,16 @@ public final class AgainstModelTest {
             same("hunk(" + p + "," + at + "," + goes + "," + comes + ")", x.hunk(p, at, goes, comes), m.hunk(p, at, goes, comes));
         }
 
-        /** A version near the newest one, so that differences, joins and patches meet often. */
-        private void nearPatch() {
+        private void longDesk() {
+            for (int n = 8 + random.nextInt(7); n > 0; n--) {
+                int v = random.nextInt(lines);
+                same("line(0," + v + ")", x.line(0, v), m.line(0, v));
+            }
+            same("keep(-1,-1)", x.keep(-1, -1), m.keep(-1, -1));
+        }
+
+        /** A version near another one, so that differences, joins and patches meet often. */
+        private void nearVersion() {
             int v = m.versions.isEmpty() ? -1 : random.nextInt(m.versions.size());
             same("take(" + v + ")", x.take(v), m.take(v));
             for (int k = 0; k < 3; k++) {
