@@ -894,7 +894,8 @@ public final class KeptVersions {
 
         /** How much longer the row behind is than the row ahead by the hunks before h. */
         int shiftBefore(int h) {
-            return start(comingFrom, h) - start(goingFrom, h);
+            boolean known = h >= 0 && h < comingFrom.length && h < goingFrom.length;
+            return known ? comingFrom[h] - goingFrom[h] : 0;
         }
 
         int beginsBehind(int h) {
@@ -988,8 +989,9 @@ public final class KeptVersions {
         /** The line that goes at a place of the row ahead, or NONE. */
         int goingAt(int place) {
             for (int h = 0; h < hunks; h++) {
-                if (place >= begins(h) && place < ends(h)) {
-                    return goingLine(h, place - begins(h));
+                int k = place - begins(h);
+                if (k >= 0 && k < going(h)) {
+                    return goingLine(h, k);
                 }
             }
             return NONE;
@@ -998,8 +1000,9 @@ public final class KeptVersions {
         /** The line that came to a place of the row behind, or NONE. */
         int comingAt(int place) {
             for (int h = 0; h < hunks; h++) {
-                if (place >= beginsBehind(h) && place < endsBehind(h)) {
-                    return comingLine(h, place - beginsBehind(h));
+                int k = place - beginsBehind(h);
+                if (k >= 0 && k < coming(h)) {
+                    return comingLine(h, k);
                 }
             }
             return NONE;
@@ -1108,7 +1111,8 @@ public final class KeptVersions {
         }
 
         private boolean isAlike(int own, Patch other, int h) {
-            boolean same = begins(own) == other.begins(h) && going(own) == other.going(h) && coming(own) == other.coming(h);
+            boolean sameSize = going(own) == other.going(h) && coming(own) == other.coming(h);
+            boolean same = sameSize && begins(own) == other.begins(h);
             for (int k = 0; same && k < going(own); k++) {
                 same = goingLine(own, k) == other.goingLine(h, k);
             }

@@ -521,6 +521,18 @@ public final class PromisesTest {
         setDesk(k, 5, 1, 1, 1, 6);
         due(19, "sizes are summed, not what they come to", k.loose(r), 2);
         dueAll(19, "row", row(k), 1, 1, 1);
+        looseOfLongOnes();
+    }
+
+    private static void looseOfLongOnes() {
+        KeptVersions k = new KeptVersions();
+        version(k, NONE, NONE, 1, 2, 3, 4, 5);
+        version(k, NONE, NONE, 1, 7, 8, 9, 4);
+        int p = k.patch(0, 1);
+        // Two go for three, and one goes at the end: then looked for at 4 + 2 + 1 = 7, and found there.
+        setDesk(k, 2, 0, 0, 2, 3, 0, 5);
+        due(19, "all lines of a hunk stand there", k.loose(p), 2);
+        dueAll(19, "row", row(k), 2, 0, 0, 7, 8, 9, 0);
     }
 
     private static void looseAtEnds() {
@@ -647,6 +659,7 @@ public final class PromisesTest {
         due(21, "unknown second", k.together(p, 1), UNKNOWN);
         int q = made(k, h(2, 3, 4));
         due(21, "takes another line than came", k.together(p, q), OUTSIDE);
+        togetherOfOtherLines();
         int eleven = made(k, h(0, NONE, 1), h(2, NONE, 1), h(4, NONE, 1), h(6, NONE, 1), h(8, NONE, 1), h(10, NONE, 1));
         // In the row between the six stand at 0, 3, 6, 9, 12, 15.
         int more = made(k, h(2, NONE, 7), h(5, NONE, 7), h(8, NONE, 7), h(11, NONE, 7));
@@ -670,6 +683,18 @@ public final class PromisesTest {
         due(21, "full", k.together(none, none), FULL);
         due(21, "outside is told ahead of full", k.together(p, q), OUTSIDE);
         due(21, "count", k.count(2), 12);
+    }
+
+    private static void togetherOfOtherLines() {
+        KeptVersions k = new KeptVersions();
+        version(k, NONE, NONE);
+        version(k, NONE, NONE, 1, 2, 3);
+        int p = k.patch(0, 1);
+        due(21, "the third that came", k.together(p, made(k, h(2, 3, NONE))), 2);
+        dueAll(21, "hunks", told(k, 2), 0, 0, 2, 1, 2);
+        due(21, "another one than the third", k.together(p, made(k, h(2, 2, NONE))), OUTSIDE);
+        due(21, "one behind what came may be any", k.together(p, made(k, h(3, 2, NONE))), 5);
+        dueAll(21, "hunks", told(k, 5), 0, 1, 3, 2, 1, 2, 3);
     }
 
     private static void swap() {
@@ -740,8 +765,13 @@ public final class PromisesTest {
         due(23, "two of x with one of y", k.clash(0, 1, 6), 2);
         due(23, "one of x with two of y", k.clash(0, 6, 1), 1);
         due(23, "the base itself", k.clash(0, 0, 6), 0);
-        due(23, "unknown b", k.clash(7, 0, 1), UNKNOWN);
-        due(23, "unknown x", k.clash(0, 7, 1), UNKNOWN);
+        version(k, NONE, NONE, 1, 7, 8, 2, 3, 4, 5, 6);
+        due(23, "one comes, or two that begin with it", k.clash(0, 5, 7), 1);
+        version(k, NONE, NONE, 1, 8, 3, 4, 5, 6);
+        version(k, NONE, NONE, 1, 8, 4, 5, 6);
+        due(23, "one goes, or two that begin with it", k.clash(0, 8, 9), 1);
+        due(23, "unknown b", k.clash(10, 0, 1), UNKNOWN);
+        due(23, "unknown x", k.clash(0, 10, 1), UNKNOWN);
         due(23, "unknown y", k.clash(0, 1, NONE), UNKNOWN);
     }
 
