@@ -1272,9 +1272,8 @@ public final class KeptVersions {
         private final int[] wholeRooms = new int[MAX_STORED];
         private final int[] patchRooms = new int[MAX_STORED * MAX_STORED];
         private final int[] asking = new int[MAX_STORED];
-        // The least that each version may be remade for in any store.
-        private final int[] cheapest = new int[MAX_STORED];
-        // The least that versions from i on add to room and to the sum, in any store.
+        // The least that versions from i on add to room and to the sum, in any store. None is remade for less
+        // than its whole room: a patch brings at least as many lines as its version has more than the source.
         private final int[] roomFrom = new int[MAX_STORED + 1];
         private final int[] sumFrom = new int[MAX_STORED + 1];
         private final int[] sources = new int[MAX_STORED];
@@ -1305,9 +1304,8 @@ public final class KeptVersions {
         }
 
         void find() {
-            reckonCheapest();
             for (int i = 0; i < versions; i++) {
-                if (cheapest[i] > bound) {
+                if (wholeRooms[i] > bound) {
                     return;
                 }
             }
@@ -1387,20 +1385,6 @@ public final class KeptVersions {
             return false;
         }
 
-        private void reckonCheapest() {
-            for (int i = 0; i < versions; i++) {
-                cheapest[i] = wholeRooms[i];
-            }
-            // A way has at most so many pieces as there are versions.
-            for (int round = 1; round < versions; round++) {
-                for (int i = 0; i < versions; i++) {
-                    for (int source = 0; source < versions; source++) {
-                        cheapest[i] = Math.min(cheapest[i], remadeAtLeast(i, source));
-                    }
-                }
-            }
-        }
-
         private void reckonLeastFrom() {
             roomFrom[versions] = 0;
             sumFrom[versions] = 0;
@@ -1410,7 +1394,7 @@ public final class KeptVersions {
                     room = source == i ? room : Math.min(room, pieceRoom(i, source));
                 }
                 roomFrom[i] = roomFrom[i + 1] + room;
-                sumFrom[i] = sumFrom[i + 1] + asking[i] * cheapest[i];
+                sumFrom[i] = sumFrom[i + 1] + asking[i] * wholeRooms[i];
             }
         }
 
@@ -1477,7 +1461,7 @@ public final class KeptVersions {
 
         private int remadeAtLeast(int i, int source) {
             boolean patched = source >= 0 && source < MAX_STORED;
-            return pieceRoom(i, source) + (patched ? cheapest[source] : 0);
+            return pieceRoom(i, source) + (patched ? wholeRooms[source] : 0);
         }
 
         private int pieceRoom(int i, int source) {

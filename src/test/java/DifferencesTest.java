@@ -104,6 +104,11 @@ public final class DifferencesTest extends Checks {
         keeps("three, not the one at the end", row(4, 1, 2, 3), row(1, 2, 3, 4), NONE, 0, 1, 2);
     }
 
+    static void promise11EachLineIsKeptOnce() {
+        keeps("three 5 of y are no more than one of x", row(1, 5), row(5, 5, 1, 5), 2, 3);
+        keeps("three 5 of x are no more than one of y", row(5, 5, 1, 5), row(1, 5), NONE, NONE, 0, 1);
+    }
+
     static void promise11ToAnEmptyRowAllGo() {
         keeps("all go", row(1, 2), row(), NONE, NONE);
     }

@@ -62,6 +62,8 @@ public final class JoiningTest extends Checks {
         clashes("one comes, or two that begin with it", 1, row(1, 2), row(1, 7, 2), row(1, 7, 8, 2));
         clashes("one comes, or two that end with it", 1, row(1, 2), row(1, 8, 2), row(1, 7, 8, 2));
         clashes("one goes, or two that begin with it", 1, row(1, 2, 3, 4), row(1, 8, 3, 4), row(1, 8, 4));
+        clashes("two come, or one that they begin with", 1, row(1, 2), row(1, 7, 8, 2), row(1, 7, 2));
+        clashes("two go, or one that they begin with", 1, row(1, 2, 3, 4), row(1, 8, 4), row(1, 8, 3, 4));
         clashes("another one comes", 1, row(1, 2, 3), row(1, 8, 3), row(1, 9, 3));
     }
 
@@ -110,6 +112,11 @@ public final class JoiningTest extends Checks {
         joins("changed", row(1, 2, 3, 4, 5, 6), row(9, 2, 3, 4, 5, 6, 8), row(9, 2, 4, 5, 6), 9, 2, 4, 5, 6, 8);
         joins("comes", row(1, 2), row(1, 9, 2), row(1, 9, 2), 1, 9, 2);
         joins("goes", row(1, 2, 3), row(1, 3), row(1, 3), 1, 3);
+    }
+
+    static void promise24TenHunksInAll() {
+        joins("all that rows of 14 lines have room for", rising(14, 1), row(20, 1, 2, 21, 3, 4, 5, 6, 7, 9, 10, 11, 13, 14),
+            row(1, 30, 2, 3, 31, 4, 32, 5, 7, 8, 9, 11, 12, 13), 20, 1, 30, 2, 21, 3, 31, 4, 32, 5, 7, 9, 11, 13);
     }
 
     static void promise24OfEmptyRows() {

@@ -72,6 +72,13 @@ public final class StoresTest extends Checks {
         dueRow("from with 9 for the last", sources(last, 3, 99), 2, 2, NONE);
     }
 
+    static void promise27TheSumIsLessByOne() {
+        // Sums of room 15: from 0: 14 + 22 + 15; from 1: 22 + 16 + 12; from 2: 24 + 24 + 9.
+        KeptVersions k = growing(2, 2, 1);
+        due("sum", k.store(3, 99, 1), 50);
+        dueRow("from", sources(k, 3, 99), 1, NONE, 1);
+    }
+
     static void promise27AskedOfNoneMakesNoSum() {
         KeptVersions k = growing(0, 0, 0);
         dueRow("room, sum", row(k.store(3, 99, 0), k.store(3, 99, 1)), 15, 0);
