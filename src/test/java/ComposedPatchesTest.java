@@ -288,6 +288,21 @@ public final class ComposedPatchesTest extends Checks {
         due("came and went", k.of(k.together(3, 2), 0), 0);
     }
 
+    static void promise21TwentyNineThatAreLeftOutAreNotCounted() {
+        KeptVersions k = withVersions(repeated(14, 5), row(), row(9), row(9, 5, 5, 5, 5, 5, 5, 5, 5, 5, 5, 5, 5, 5));
+        int takes14 = k.patch(0, 1);
+        int brings13 = k.patch(2, 3);
+        int p = k.together(k.together(takes14, takes14), made(k, h(0, NONE, 5)));
+        int brings1 = made(k, h(1, NONE, 5));
+        int q = k.together(made(k, h(1, 5, NONE)), brings13);
+        q = k.together(k.together(k.together(q, brings13), brings1), brings1);
+        dueRow("p", row(k.of(p, 0), k.of(p, 1), k.of(p, 2)), 1, 28, 1);
+        dueRow("q", row(k.of(q, 0), k.of(q, 1), k.of(q, 2), k.hunkOf(q, 0, 0)), 1, 1, 28, 1);
+        // 29 like lines would go, and 29 would come.
+        due("number", k.together(p, q), 11);
+        due("hunks", k.of(11, 0), 0);
+    }
+
     // ---- 22: "SWAPPED, as two new PATCHES: the number of the first (q's); the next one is p's. UNKNOWN; STATE: some touch; FULL."
     // "q first, as for the row ahead of p, then p, as for what comes of that."
 
